@@ -172,7 +172,7 @@ public final class PromiseTests {
             due("fault() of " + text, faultOf(text), NONE);
         }
         String[] badItems = {"m3;", "m;", "m0", "m", "m000;", "m0,0;", "m0,;", "m,0;", ";", ",", "0;", "M0;", " m0;", "m 0;", "m0 ;", "m-1;",
-            "o0,41,0;", "o0,0,1;", "o0,1,2;", "o1,1,1;", "o0,1;", "o0,1,1,1;", "o0,100,1;", "o0;", "e1;", "e0,0;", "e;", "s6;", "s;", "s1,1;",
+            "o0,41,0;", "o0,0,1;", "o0,1,2;", "o0,9,2;", "o0,40,99;", "o1,1,1;", "o0,1;", "o0,1,1,1;", "o0,100,1;", "o0;", "e1;", "e0,0;", "e;", "s6;", "s;", "s1,1;",
             "d0,0;", "d61,0;", "d1,6;", "d1;", "d1,1,1;", "d1,,1;", "u5,4;", "u0,61;", "u61,61;", "u1;", "u1,2,3;", "x1;", "\u00ff", "m\u00b0;",
             "n0;", "o0,1,1:", "u1.2;"};
         for (String item : badItems) {
@@ -638,6 +638,7 @@ public final class PromiseTests {
         wayIs(y, 1, 1, 0, 1, 2);
         wayIs(y, 4, 1, 0, 1, 2);
         wayIs(y, 2, 1, 1, 0, 2);
+        wayIs(laid("m0;m0;m0;o0,5,1;s0;"), 4, 4, 1, 2, 0);
     }
 
     private static void wayIs(BlindLanterns x, int set, int n, int... way) {
