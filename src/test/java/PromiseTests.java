@@ -1,15 +1,9 @@
 /** For each promise of the document: ordinary inputs, the edges that it names, wrong inputs; all worked out by hand. */
-public final class PromiseTests {
-    private static final int BAD = -1, NO = -2, FULL = -3, NONE = -4;
-    private static final int[] FAR_OUT = {Integer.MIN_VALUE, Integer.MIN_VALUE + 1, -100, Integer.MAX_VALUE - 1, Integer.MAX_VALUE};
-
+public final class PromiseTests extends Checks {
     /** A TRUE, a COLD MAN and a MOTH; LANTERN 0 comes to the DRAUGHT at BELL 2; LANTERN 2 is a CHEESE. */
     private static final String THREE = "m0;m1;m2;o0,5,1;o1,9,0;e2;d2,2;u3,4;";
     /** TRUE MEN, a step of 0, so that each LANTERN stays. */
     private static final String STILL = "m0;m0;m0;m0;o0,3,1;o1,20,1;o2,7,1;o3,9,0;s0;d5,1;";
-
-    private static int promise = 0;
-    private static int wrong = 0;
 
     public static void main(String[] args) {
         newObject();
@@ -40,74 +34,11 @@ public final class PromiseTests {
         back();
         count();
         farOut();
-        System.out.println(wrong == 0 ? "all promises hold" : wrong + " answers are not as promised");
-        if (wrong != 0) {
-            System.exit(1);
-        }
-    }
-
-    private static void due(String call, int got, int want) {
-        if (got != want) {
-            wrong++;
-            System.out.println("promise " + promise + ": " + call + " answered " + got + ", due is " + want);
-        }
-    }
-
-    private static void put(BlindLanterns x, String text) {
-        for (int i = 0; i < text.length(); i++) {
-            x.write(1, text.charAt(i));
-        }
-    }
-
-    private static BlindLanterns laid(String text) {
-        BlindLanterns x = new BlindLanterns();
-        put(x, text);
-        due("lay of " + text, x.lay() > 0 ? 1 : 0, 1);
-        return x;
-    }
-
-    private static int faultOf(String text) {
-        BlindLanterns x = new BlindLanterns();
-        put(x, text);
-        return x.fault();
-    }
-
-    private static int layOf(String text) {
-        BlindLanterns x = new BlindLanterns();
-        put(x, text);
-        return x.lay();
-    }
-
-    /** The whole state as far as it is told, to see that a refused call changes nothing. */
-    private static String stateOf(BlindLanterns x) {
-        StringBuilder s = new StringBuilder();
-        for (int what = 0; what < 8; what++) {
-            s.append(x.count(what)).append(' ');
-        }
-        for (int l = 0; l < x.count(0); l++) {
-            s.append(x.lantern(l, 0)).append(',').append(x.lantern(l, 1)).append(',').append(x.lantern(l, 2)).append(' ');
-        }
-        return s.append(x.fits()).append(' ').append(x.fault()).toString();
-    }
-
-    /** What undo() and back() bring back. */
-    private static String passOf(BlindLanterns x) {
-        StringBuilder s = new StringBuilder().append(x.count(1)).append(':');
-        for (int l = 0; l < x.count(0); l++) {
-            s.append(' ').append(x.lantern(l, 0)).append(',').append(x.lantern(l, 1)).append(',').append(x.lantern(l, 2));
-        }
-        return s.toString();
-    }
-
-    private static void same(String what, String got, String want) {
-        if (!got.equals(want)) {
-            wrong++;
-            System.out.println("promise " + promise + ": " + what + " left " + got + ", due is " + want);
-        }
+        end("all promises hold");
     }
 
     private static void newObject() {
-        promise = 1;
+        about("promise 1");
         BlindLanterns x = new BlindLanterns();
         same("a new object", stateOf(x), "3 0 1 14 0 0 0 0 0,5,1 1,9,0 2,0,0 4 -4");
         for (int p = 0; p < 3; p++) {
@@ -123,7 +54,7 @@ public final class PromiseTests {
     }
 
     private static void write() {
-        promise = 2;
+        about("promise 2");
         BlindLanterns x = new BlindLanterns();
         due("write(0, 1)", x.write(0, 1), BAD);
         due("write(9, 1)", x.write(9, 1), BAD);
@@ -150,7 +81,7 @@ public final class PromiseTests {
     }
 
     private static void wipe() {
-        promise = 3;
+        about("promise 3");
         BlindLanterns x = new BlindLanterns();
         due("wipe() of nothing", x.wipe(), 0);
         put(x, "m0;m0;");
@@ -165,7 +96,7 @@ public final class PromiseTests {
     }
 
     private static void fault() {
-        promise = 4;
+        about("promise 4");
         String[] good = {"", "m0;", "m00;m01;m02;", "m0;o0,40,1;", "m0;o0,1,1;", "m0;o0,0,0;", "m0;o00,09,01;", "m0;e0;o0,1,0;e0;",
             "s0;s5;s1;", "d1,0;d60,5;d1,0;d1,0;d1,0;d1,0;", "u0,0;u60,60;u0,60;u5,6;", "m0;m0;m0;m0;m0;m0;o5,2,1;e5;", THREE, STILL};
         for (String text : good) {
@@ -187,7 +118,7 @@ public final class PromiseTests {
     }
 
     private static void lay() {
-        promise = 5;
+        about("promise 5");
         due("lay() of nothing", layOf(""), NO);
         due("lay() of one man", layOf("m0;"), NO);
         due("lay() of two men", layOf("m0;m0;"), 2);
@@ -237,14 +168,8 @@ public final class PromiseTests {
         due("lay() of six draughts again", layAfter(y, "m0;m0;d1,0;d1,0;d1,0;d1,0;d1,0;d1,0;"), 2);
     }
 
-    private static int layAfter(BlindLanterns x, String text) {
-        x.wipe();
-        put(x, text);
-        return x.lay();
-    }
-
     private static void lantern() {
-        promise = 6;
+        about("promise 6");
         BlindLanterns x = laid(THREE);
         x.bells(1);
         int[][] due = {{1, 4, 1, 0}, {2, 9, 0, 0}, {0, 0, 0, 1}};
@@ -260,7 +185,7 @@ public final class PromiseTests {
     }
 
     private static void post() {
-        promise = 7;
+        about("promise 7");
         BlindLanterns x = laid(THREE);
         int[][] first = {{0, 0, 1}, {1, 1, 0}, {2, 2, 1}};
         int[][] behindOne = {{0, 2, 0}, {1, 0, 0}, {2, 1, 1}};
@@ -285,7 +210,7 @@ public final class PromiseTests {
     }
 
     private static void fill() {
-        promise = 8;
+        about("promise 8");
         BlindLanterns x = laid(THREE);
         due("fill(1, 40)", x.fill(1, 40), 49);
         due("fill(1, 1)", x.fill(1, 1), 50);
@@ -304,7 +229,7 @@ public final class PromiseTests {
     }
 
     private static void light() {
-        promise = 9;
+        about("promise 9");
         BlindLanterns x = laid(THREE);
         due("light(0): is lit", x.light(0), NO);
         due("light(2): a cheese", x.light(2), NO);
@@ -324,7 +249,7 @@ public final class PromiseTests {
     }
 
     private static void change() {
-        promise = 10;
+        about("promise 10");
         BlindLanterns x = laid(THREE);
         due("change(0, 2)", x.change(0, 2), 2);
         due("change(2, 1)", x.change(2, 1), 1);
@@ -342,7 +267,7 @@ public final class PromiseTests {
     }
 
     private static void bells() {
-        promise = 11;
+        about("promise 11");
         BlindLanterns x = laid(THREE);
         due("bells(0)", x.bells(0), BAD);
         due("bells(100)", x.bells(100), BAD);
@@ -372,7 +297,7 @@ public final class PromiseTests {
     }
 
     private static void undo() {
-        promise = 12;
+        about("promise 12");
         BlindLanterns x = laid(THREE);
         due("undo()", x.undo(), NO);
         String[] passes = new String[12];
@@ -405,7 +330,7 @@ public final class PromiseTests {
     }
 
     private static void warm() {
-        promise = 13;
+        about("promise 13");
         BlindLanterns x = laid(THREE);
         int[][] due = {{1, 0, 1}, {0, 0, 1}, {0, 0, 1}, {1, 0, 0}, {1, 0, 0}, {0, 0, 1}, {0, 0, 1}};
         for (int n = 0; n < due.length; n++) {
@@ -431,7 +356,7 @@ public final class PromiseTests {
     }
 
     private static void dark() {
-        promise = 14;
+        about("promise 14");
         BlindLanterns x = laid(THREE);
         int[] due = {6, 5, 7, 7};
         for (int n = 0; n < due.length; n++) {
@@ -457,7 +382,7 @@ public final class PromiseTests {
     }
 
     private static void walk() {
-        promise = 15;
+        about("promise 15");
         BlindLanterns x = laid(THREE);
         due("walk(0, 0)", x.walk(0, 0), 1);
         due("walk(0, 1)", x.walk(0, 1), 2);
@@ -476,7 +401,7 @@ public final class PromiseTests {
     }
 
     private static void seen() {
-        promise = 16;
+        about("promise 16");
         BlindLanterns x = laid(THREE);
         due("seen(3, 0, true)", x.seen(3, 0, true), BAD);
         due("seen(-1, 0, true)", x.seen(-1, 0, true), BAD);
@@ -500,7 +425,7 @@ public final class PromiseTests {
     }
 
     private static void forget() {
-        promise = 17;
+        about("promise 17");
         BlindLanterns x = laid(THREE);
         due("forget()", x.forget(), 0);
         x.seen(0, 0, true);
@@ -512,7 +437,7 @@ public final class PromiseTests {
     }
 
     private static void fits() {
-        promise = 18;
+        about("promise 18");
         BlindLanterns x = laid(THREE);
         due("fits(): LANTERNS 0 and 1 have oil", x.fits(), 4);
         x.seen(1, 1, false);
@@ -535,7 +460,7 @@ public final class PromiseTests {
     }
 
     private static void odds() {
-        promise = 19;
+        about("promise 19");
         BlindLanterns x = laid("m0;m0;m0;m2;o0,9,1;o1,9,0;o3,9,1;s0;");
         oddsAre(x, 0, 1, 2);
         oddsAre(x, 2, 0, 1);
@@ -557,13 +482,8 @@ public final class PromiseTests {
         oddsAre(y, 1, 1, 2);
     }
 
-    private static void oddsAre(BlindLanterns x, int l, int above, int below) {
-        due("odds(" + l + ", 0)", x.odds(l, 0), above);
-        due("odds(" + l + ", 1)", x.odds(l, 1), below);
-    }
-
     private static void letOut() {
-        promise = 20;
+        about("promise 20");
         BlindLanterns x = laid(STILL);
         due("letOut(0): all 60 times 4", x.letOut(0), 240);
         due("letOut(1)", x.letOut(1), 10);
@@ -593,7 +513,7 @@ public final class PromiseTests {
     }
 
     private static void coldHands() {
-        promise = 21;
+        about("promise 21");
         BlindLanterns x = laid(THREE);
         due("coldHands(): nothing is seen", x.coldHands(), 64 + 7);
         x.seen(0, 0, true);
@@ -610,7 +530,7 @@ public final class PromiseTests {
     }
 
     private static void keepLit() {
-        promise = 22;
+        about("promise 22");
         BlindLanterns x = laid(STILL);
         due("keepLit(0, 20, -1)", x.keepLit(0, 20, -1), 0);
         wayIs(x, 1, 2, 0, 1, 2, 3);
@@ -641,17 +561,8 @@ public final class PromiseTests {
         wayIs(laid("m0;m0;m0;o0,5,1;s0;"), 4, 4, 1, 2, 0);
     }
 
-    private static void wayIs(BlindLanterns x, int set, int n, int... way) {
-        int elsewhere = 0;
-        for (int p = 0; p < way.length; p++) {
-            due("keepLit(" + set + ", " + n + ", " + p + ")", x.keepLit(set, n, p), way[p]);
-            elsewhere += x.post(p, 1) == way[p] ? 0 : 1;
-        }
-        due("keepLit(" + set + ", " + n + ", -1)", x.keepLit(set, n, -1), elsewhere);
-    }
-
     private static void oil() {
-        promise = 23;
+        about("promise 23");
         BlindLanterns x = laid(STILL);
         due("oil(0, 20)", x.oil(0, 20), 0);
         due("oil(1, 2)", x.oil(1, 2), 0);
@@ -679,7 +590,7 @@ public final class PromiseTests {
 
     /** By z 0 DRAW is 41487, 10299, 37479 at the first BELLS; by 8, modulo 4: 1, 3, 0; 37479 is odd: POST 1 of 2. */
     private static void night() {
-        promise = 24;
+        about("promise 24");
         BlindLanterns x = laid("m0;m0;o0,40,1;o1,40,1;s0;");
         due("night(0, 2, 0)", x.night(0, 2, 0), 2);
         due("night(0, 2, 1)", x.night(0, 2, 1), 76);
@@ -727,7 +638,7 @@ public final class PromiseTests {
     }
 
     private static void keep() {
-        promise = 25;
+        about("promise 25");
         BlindLanterns x = laid(THREE);
         due("keep()", x.keep(), 1);
         x.bells(2);
@@ -740,7 +651,7 @@ public final class PromiseTests {
     }
 
     private static void back() {
-        promise = 26;
+        about("promise 26");
         BlindLanterns x = laid(THREE);
         due("back()", x.back(), NO);
         x.light(1);
@@ -770,7 +681,7 @@ public final class PromiseTests {
     }
 
     private static void count() {
-        promise = 27;
+        about("promise 27");
         BlindLanterns x = laid(THREE + "m0;");
         x.seen(0, 0, true);
         x.seen(0, 0, true);
@@ -789,7 +700,7 @@ public final class PromiseTests {
 
     /** Of numbers far out none may overflow into a good one, nor throw. */
     private static void farOut() {
-        promise = 0;
+        about("numbers far out");
         BlindLanterns x = laid(STILL);
         String before = stateOf(x);
         for (int n : FAR_OUT) {
