@@ -525,7 +525,7 @@ public final class TextBoundaryTests extends Checks {
     private static void layAfterOthers() {
         sentence("BELL 0, nothing SEEN, UNDONE, KEPT");
         String rich = "m2;m1;m2;m1;m2;o0,40,1;o1,9,1;e2;e3;o4,1,1;s4;" + "d1,0;d2,1;d3,2;d4,3;d5,4;d6,0;u0,60;";
-        String poor = men(5) + "o1,40,1;";
+        String poor = men(5) + "o1,40,1;o4,40,1;";
         String freshRich = allOf(laid(rich));
         String freshPoor = allOf(laid(poor));
         for (int before = 1; before <= 4; before++) {
@@ -540,7 +540,7 @@ public final class TextBoundaryTests extends Checks {
             due("lay() of all", layAfter(x, rich), 5);
             due("lay() of men", layAfter(x, poor), 5);
             if (i % 2 == 1) {
-                layAfter(x, rich);
+                due("lay() of more men", layAfter(x, men(6) + "d9,5;".repeat(6)), 6);
             }
         }
         due("lay() with a fault", layAfter(x, rich + "x"), NO);
