@@ -88,13 +88,14 @@ public final class FeltBoundaryTests extends Checks {
             }
             x.bells(1);
         }
-        ringTo(x, 9999);
-        x.fill(2, 40);
-        x.fill(2, 21);
-        x.light(2);
-        due("dark(60) at BELL 9999", x.dark(60), 7 - (1 << (2 + 9999 + 60) % 3));
-        due("dark(0) at BELL 9999", x.dark(0), 7 - (1 << (2 + 9999) % 3));
-        due("count(1)", x.count(1), 9999);
+        BlindLanterns late = laid(men(3));
+        ringTo(late, 9999);
+        late.fill(2, 40);
+        late.fill(2, 21);
+        late.light(2);
+        due("dark(60) at BELL 9999", late.dark(60), 7 - (1 << (2 + 9999 + 60) % 3));
+        due("dark(0) at BELL 9999", late.dark(0), 7 - (1 << (2 + 9999) % 3));
+        due("count(1)", late.count(1), 9999);
     }
 
     /** LANTERN 1 is at POST 1 at BELL 30: the DRAUGHT blows it out; LANTERN 0 burns for 40. */

@@ -528,7 +528,7 @@ public final class TextBoundaryTests extends Checks {
         String poor = men(5) + "o1,40,1;o4,40,1;";
         String freshRich = allOf(laid(rich));
         String freshPoor = allOf(laid(poor));
-        for (int before = 1; before <= 4; before++) {
+        for (int before = 1; before <= 3; before++) {
             same("lay() of men behind others, " + before, allOf(behindOthers(rich, poor, poor, before)), freshPoor);
             same("lay() of all behind others, " + before, allOf(behindOthers(rich, poor, rich, before)), freshRich);
         }
